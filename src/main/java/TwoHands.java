@@ -666,7 +666,7 @@ public final class TwoHands {
 
     /** Tells a copy of the strokes what the ROW says: which twos were left out, as bits. */
     private int mendSparePage(Row told) {
-        sparePage.copyStrokesOf(page);
+        sparePage.copyLinksOf(page);
         int leftOut = 0;
         for (int two = 0; 2 * two + 1 < told.size; two++) {
             int a = told.numbers[2 * two];
@@ -790,12 +790,9 @@ public final class TwoHands {
             }
         }
 
-        /** All but the cells, which mending() doesn't look at. */
-        void copyStrokesOf(Page other) {
-            wide = other.wide;
-            high = other.high;
+        /** What mending() needs of the strokes: where they are is told by what they cross. */
+        void copyLinksOf(Page other) {
             strokes = other.strokes;
-            twos = other.twos;
             lower = other.lower;
             upper = other.upper;
             for (int i = 0; i < MOST_STROKES; i++) {
@@ -1270,10 +1267,9 @@ public final class TwoHands {
             }
         }
 
-        /** For a page that isn't kept: the tables are of no use for the next call then. */
+        /** For a page that isn't kept: the table is of no use for the next call then. */
         int countOnceFor(Page page) {
             stale = true;
-            detailStale = true;
             return countRowsTo(page);
         }
 
