@@ -1,64 +1,5 @@
 /** Each promise of the document by plain cases, edges and wrong inputs, worked out by hand. */
-public final class PromiseTests {
-    private static int wrong = 0;
-    private static int asked = 0;
-    private static String promise = "";
-
-    private static final String LEAF = "page 8 6;stroke 0 1 0 6;stroke 2 0 1 5;stroke 4 0 1 4;stroke 0 3 0 5;"
-            + "over 1 0;over 0 2;hand 1 1;hand 2 0;"
-            + "letter a 186 3;letter b 146 5;letter c 56 2;letter d 26 4;letter e 2 4;place 1 0;place 3 2;"
-            + "word ad;word be;word cc;word ea;word d;run 0 2;";
-    /** Three strokes to the right through three strokes down: each of 0, 1, 2 crosses each of 3, 4, 5. */
-    private static final String GRID = "page 6 6;stroke 0 0 0 6;stroke 0 2 0 6;stroke 0 4 0 6;"
-            + "stroke 1 0 1 6;stroke 3 0 1 6;stroke 5 0 1 6;";
-
-    private static void due(String call, long got, long want) {
-        asked++;
-        if (got != want) {
-            wrong++;
-            System.out.println(promise + ": " + call + " answered " + got + ", due is " + want);
-        }
-    }
-
-    private static int feedBytes(TwoHands hands, int[] bytes) {
-        int answer = 0;
-        for (int i = 0; i < bytes.length; i += 20) {
-            int[] five = new int[5];
-            for (int k = 0; k < 20; k++) {
-                int sign = i + k < bytes.length ? bytes[i + k] : 0;
-                five[k / 4] |= sign << (24 - 8 * (k % 4));
-            }
-            answer = hands.feed(five[0], five[1], five[2], five[3], five[4]);
-        }
-        return answer;
-    }
-
-    private static int tellText(TwoHands hands, String text) {
-        feedBytes(hands, text.chars().toArray());
-        return hands.tell(text.length());
-    }
-
-    private static TwoHands told(String text) {
-        TwoHands hands = new TwoHands();
-        int answer = tellText(hands, text);
-        if (answer < 0) {
-            wrong++;
-            System.out.println(promise + ": a text was refused by " + answer + ": " + text);
-        }
-        return hands;
-    }
-
-    /** A text that is to be refused: by which FAULT, and where. */
-    private static void refused(String text, int fault, int place) {
-        TwoHands hands = new TwoHands();
-        due("tell: " + text, tellText(hands, text), -30 - fault);
-        due("fault(0): " + text, hands.fault(0), fault);
-        due("fault(1): " + text, hands.fault(1), place);
-        due("count(7)", hands.count(7), 0);
-        due("count(0)", hands.count(0), 0);
-        due("count(8)", hands.count(8), 3);
-    }
-
+public final class PromiseTests extends Checks {
     private static void newObject() {
         TwoHands hands = new TwoHands();
         for (int what = 0; what <= 12; what++) {
@@ -89,10 +30,10 @@ public final class PromiseTests {
     private static void tell() {
         TwoHands hands = new TwoHands();
         due("tell(-1)", hands.tell(-1), -3);
-        feedBytes(hands, "page 9 9;".chars().toArray());
+        feedText(hands, "page 9 9;");
         due("tell(21)", hands.tell(21), -3);
-        due("tell(MIN)", hands.tell(Integer.MIN_VALUE), -3);
-        due("tell(MAX)", hands.tell(Integer.MAX_VALUE), -3);
+        due("tell(MIN)", hands.tell(MIN), -3);
+        due("tell(MAX)", hands.tell(MAX), -3);
         due("count(7)", hands.count(7), 20);
         due("count(8)", hands.count(8), 3);
         due("tell(9)", hands.tell(9), 1);
@@ -422,7 +363,7 @@ public final class PromiseTests {
         due("mending", hands.mending(0, 1), 1);
         due("tell", hands.tell(0), 0);
         due("stays", hands.ring(3), 2);
-        due("ring(MAX)", hands.ring(Integer.MAX_VALUE), -1);
+        due("ring(MAX)", hands.ring(MAX), -1);
     }
 
     private static void orders() {
@@ -711,7 +652,7 @@ public final class PromiseTests {
         due("write(0, 0, -1)", hands.write(0, 0, -1), -1);
         hands.row(1, 1, 2);
         due("write(1, 1, 70000)", hands.write(1, 1, 70000), 70000);
-        due("write(1, 1, MIN)", hands.write(1, 1, Integer.MIN_VALUE), Integer.MIN_VALUE);
+        due("write(1, 1, MIN)", hands.write(1, 1, MIN), MIN);
         due("judge(3)", hands.judge(3), 0);
         due("mending(3, 0)", hands.mending(3, 0), 1);
     }
@@ -737,8 +678,8 @@ public final class PromiseTests {
         due("below 0", hands.paste(0, -1, 1, 0, 1), -7);
         due("below 0", hands.paste(0, 0, 1, -1, 1), -7);
         due("below 0", hands.paste(0, 0, 1, 0, -1), -7);
-        due("wraps", hands.paste(0, Integer.MAX_VALUE, 1, 0, 2), -7);
-        due("wraps", hands.paste(0, 1, 1, 0, Integer.MAX_VALUE), -7);
+        due("wraps", hands.paste(0, MAX, 1, 0, 2), -7);
+        due("wraps", hands.paste(0, 1, 1, 0, MAX), -7);
         due("at the end", hands.paste(0, 4, 1, 3, 0), 0);
         due("beyond the end", hands.paste(0, 5, 1, 3, 0), -7);
         due("beyond the end", hands.paste(0, 4, 1, 4, 0), -7);
@@ -817,77 +758,70 @@ public final class PromiseTests {
         due("count(-1)", hands.count(-1), -1);
     }
 
-    private static void name(String which) {
-        promise = which;
-    }
-
     public static void main(String[] args) {
-        name("1 new object");
+        sentence("1 new object");
         newObject();
-        name("2 feed");
+        sentence("2 feed");
         feed();
-        name("3 tell");
+        sentence("3 tell");
         tell();
-        name("4 fault");
+        sentence("4 fault");
         fault();
         misplaced();
         outOfBounds();
         toldWrong();
         tooMany();
         ringsAndHands();
-        name("5 over");
+        sentence("5 over");
         over();
-        name("6 takes");
+        sentence("6 takes");
         takes();
-        name("7 hand");
+        sentence("7 hand");
         hand();
-        name("8 weigh");
+        sentence("8 weigh");
         weigh();
-        name("9 undo");
+        sentence("9 undo");
         undo();
-        name("10 stroke");
+        sentence("10 stroke");
         stroke();
-        name("11 crossing");
+        sentence("11 crossing");
         crossing();
-        name("12 ring");
+        sentence("12 ring");
         ring();
-        name("13 order, 14 orders, 15 ahead");
+        sentence("13 order, 14 orders, 15 ahead");
         orders();
-        name("16 ways");
+        sentence("16 ways");
         ways();
-        name("17 layers");
+        sentence("17 layers");
         layers();
-        name("18 top, 19 seen");
+        sentence("18 top, 19 seen");
         topAndSeen();
-        name("20 shows");
+        sentence("20 shows");
         shows();
-        name("21 fits, 22 sure, 23 odds, 24 guess, 27 reads, 28 letter");
+        sentence("21 fits, 22 sure, 23 odds, 24 guess, 27 reads, 28 letter");
         letters();
-        name("25 words, 26 likely, 35 likelihood");
+        sentence("25 words, 26 likely, 35 likelihood");
         words();
-        name("29 asking");
+        sentence("29 asking");
         asking();
-        name("30 loose, 31 scrape, 32 clearer");
+        sentence("30 loose, 31 scrape, 32 clearer");
         scraping();
-        name("33 span");
+        sentence("33 span");
         span();
-        name("34 paired");
+        sentence("34 paired");
         paired();
-        name("36 spoilt");
+        sentence("36 spoilt");
         spoilt();
-        name("37 row, 38 write");
+        sentence("37 row, 38 write");
         rows();
-        name("39 paste");
+        sentence("39 paste");
         paste();
-        name("40 mending");
+        sentence("40 mending");
         mending();
-        name("41 judge");
+        sentence("41 judge");
         judge();
-        name("42 count");
+        sentence("42 count");
         count();
-        System.out.println("promises: " + asked + " answers, " + wrong + " not as due");
-        if (wrong != 0) {
-            System.exit(1);
-        }
+        end("promises");
     }
 }
