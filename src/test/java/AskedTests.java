@@ -258,6 +258,13 @@ public final class AskedTests extends Checks {
         due("likely(0)", hands.likely(0), 2);
         hands = told(six + "word bbbbbb;word aaaaab;word abaaaa;word baaaaa;");
         due("likely(0)", hands.likely(0), 1);
+        sentence("26: each WORD by its own letters, not by the next one's");
+        hands = told(six + "word aaaaaa;word baaaaa;word aaaaaa;" + "word aaaaab;".repeat(8) + "word aaaaaa;");
+        due("likely(0)", hands.likely(0), 0);
+        due("words(0, -1)", hands.words(0, -1), 12);
+        due("likelihood(0, 11)", hands.likelihood(0, 11), hands.likelihood(0, 0));
+        sentence("26: the least product of WEIGHTS");
+        due("likely(0)", told(COVERED + "letter a 511 1;place 0 0;run 0 1;word a;word a;").likely(0), 0);
         sentence("35: the least and the greatest LIKELIHOOD");
         float least = 1f;
         hands = told(COVERED + "letter a 511 1;letter b 511 99;" + "place 0 0;".repeat(6) + "run 0 6;word aaaaaa;word bbbbbb;");
@@ -313,6 +320,9 @@ public final class AskedTests extends Checks {
         due("no PLACES", told(COVERED).scrape(), -1);
         due("all shows", told("stroke 0 0 0 3;hand 0 0;place 0 0;").scrape(), -1);
         due("two on one CELL, each of which hides", told("stroke 0 0 0 1;stroke 0 0 0 1;place 0 0;").scrape(), -1);
+        sentence("31: the least LOOSE there can be");
+        due("scrape()", told("stroke 1 1 0 1;place 0 0;").scrape(), 0);
+        due("scrape()", told("stroke 0 0 0 1;hand 0 0;stroke 2 2 0 1;place 0 0;").scrape(), 1);
         sentence("31: of like ones the first");
         due("scrape()", told(COVERED + "place 0 0;").scrape(), 0);
         due("scrape()", told("stroke 0 0 0 2;stroke 0 1 0 3;stroke 0 2 0 3;place 0 0;").scrape(), 1);

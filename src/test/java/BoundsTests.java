@@ -223,6 +223,12 @@ public final class BoundsTests extends Checks {
         due("beside each other", hands.crossing(3, 4), -1);
         due("count(11)", hands.count(11), 1);
         due("STROKES that 2 CROSSES", hands.stroke(2, 7), 0b01000);
+        hands = told("stroke 0 0 0 2;stroke 2 0 1 3;stroke 0 1 1 1;stroke 1 2 3 1;stroke 0 2 2 1;");
+        due("one CELL short of it", hands.crossing(0, 1), -1);
+        due("one CELL short of it", hands.crossing(1, 0), -1);
+        due("beneath the first CELL", hands.crossing(2, 0), -1);
+        due("ahead of the first CELL", hands.crossing(3, 4), -1);
+        due("count(11)", hands.count(11), 0);
         sentence("the first CELL along the first one");
         hands = told("page 9 9;stroke 0 0 0 6;stroke 4 0 0 5;stroke 4 0 0 1;stroke 8 0 3 9;stroke 0 8 0 9;stroke 0 0 2 9;");
         due("along 0", hands.crossing(0, 1), 4);

@@ -93,6 +93,11 @@ public final class FaultTests extends Checks {
                 refused(with(start, pieceAt(start) + "s"), 1, start);
                 refused(with(start, pieceAt(start).substring(1)), 1, start);
                 refused(with(start, pieceAt(start).toUpperCase()), 1, start);
+                for (int i = 0; i < pieceAt(start).length(); i++) {
+                    StringBuilder other = new StringBuilder(pieceAt(start));
+                    other.setCharAt(i, 'q');
+                    refused(with(start, other.toString()), 1, start);
+                }
             }
         }
         sentence("1 what can't stand there: one piece left out of each LINE, the next one stands in its place");
@@ -134,7 +139,22 @@ public final class FaultTests extends Checks {
             }
         }
         sentence("1 the end: bytes of THE TAPE behind n are no part of THE TEXT");
+        for (int size = 0; size <= text().length(); size++) {
+            TwoHands alone = new TwoHands();
+            int answer = tellText(alone, text().substring(0, size));
+            TwoHands whole = new TwoHands();
+            feedText(whole, text());
+            due("tell(" + size + ")", whole.tell(size), answer);
+            due("its FAULT", whole.fault(0), alone.fault(0));
+            due("its place", whole.fault(1), alone.fault(1));
+        }
         TwoHands hands = new TwoHands();
+        feedText(hands, "page 5 5555;");
+        due("tell(8), in the midst of a number", hands.tell(8), -31);
+        due("fault(1)", hands.fault(1), 8);
+        feedText(hands, "letter a 1 1;word aaaaaaaa;");
+        due("tell(24), in the midst of a word", hands.tell(24), -31);
+        due("fault(1)", hands.fault(1), 24);
         feedText(hands, "page 5 5;page 5 5;");
         due("tell(8)", hands.tell(8), -31);
         due("fault(1)", hands.fault(1), 8);
