@@ -158,6 +158,21 @@ public final class BoundsTests extends Checks {
         due("all MUST be lower", hands.ways(), 1);
         due("MUST of the lowest", hands.stroke(11, 5), 0);
         due("hand(11, 1)", hands.hand(11, 1), -9);
+        sentence("STROKES: one CHAIN of twelve taken in two, and made whole");
+        due("takes(5, 6)", hands.takes(5, 6), 10);
+        due("orders(): two CHAINS of six", hands.orders(), 924);
+        due("is OVER", hands.stroke(0, 8), 0b000000111110);
+        due("are OVER it", hands.stroke(11, 9), 0b011111000000);
+        due("layers()", hands.layers(), 6);
+        due("ways(): 0 to 5 are lower", hands.ways(), 7);
+        due("undo()", hands.undo(), 1);
+        due("orders()", hands.orders(), 1);
+        due("layers()", hands.layers(), 12);
+        due("takes(10, 11)", hands.takes(10, 11), 10);
+        due("orders()", hands.orders(), 12);
+        due("over(11, 0)", hands.over(11, 0), 11);
+        due("undo()", hands.undo(), 2);
+        due("orders()", hands.orders(), 12);
     }
 
     private static void directions() {

@@ -209,6 +209,16 @@ public final class ByHandTests extends Checks {
         hands.over(0, 3);
         due("over(4, 0)", hands.over(4, 0), -5);
         dueRing(hands, 4, 0, 3);
+        sentence("RING: STROKE 0 may stand at any place of it");
+        hands = told(HEAP + "over 3 0;over 0 5;over 5 1;");
+        due("over(1, 3)", hands.over(1, 3), -5);
+        dueRing(hands, 1, 3, 0, 5);
+        due("over(5, 3)", hands.over(5, 3), -5);
+        dueRing(hands, 5, 3, 0);
+        due("over(0, 3)", hands.over(0, 3), -5);
+        dueRing(hands, 0, 3);
+        due("over(1, 0)", hands.over(1, 0), -5);
+        dueRing(hands, 1, 0, 5);
         sentence("RING: of like ones the first as a row");
         hands = told(HEAP + "over 0 5;over 0 4;over 5 1;over 4 2;over 1 3;over 2 3;over 4 1;");
         due("over(3, 0)", hands.over(3, 0), -5);
@@ -222,6 +232,10 @@ public final class ByHandTests extends Checks {
         hands.over(0, 2);
         due("over(3, 0)", hands.over(3, 0), -5);
         dueRing(hands, 3, 0, 2);
+        sentence("RING: of like ones the first as a row, not the first step that leads on");
+        hands = told(HEAP + "over 5 1;over 5 2;over 1 3;over 3 4;over 2 4;over 4 0;");
+        due("over(0, 5)", hands.over(0, 5), -5);
+        dueRing(hands, 0, 5, 2, 4);
     }
 
     private static void ringStays() {
