@@ -50,6 +50,8 @@ public final class FaultTests extends Checks {
         taken(text(), 11);
         sentence("blanks may stand between all, and at both ends");
         taken("   " + text().replace(" ", "    ") + "    ", 11);
+        sentence("a WORD may be a word that begins a LINE");
+        taken("letter r 1 1;letter u 1 1;letter n 1 1;word run;place 0 0;run 0 1;", 6);
         sentence("a blank is needed between two words and between two numbers alone");
         taken("page12 11;stroke10 0 1 9;stroke2 0 2 9;hand1 1;over1 0;letter a511 99;place0 0;word a;run0 1;", 9);
         refusedAt("<lettera 1 1;", 1);
